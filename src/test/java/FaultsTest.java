@@ -4,6 +4,8 @@ import java.util.Random;
 public final class FaultsTest {
     private static final String WORDS = "court slips 0;word a worth 0;word b worth 1;word c worth 2;word d worth 3;word e worth 4";
     private static final int SPOILED = 60000;
+    /** An object is used for 512 calls: so many texts of 900 bytes, 45 feeds and four calls each, are fewer. */
+    private static final int TEXTS_OF_ONE = 10;
 
     private final Due due = new Due();
 
@@ -50,7 +52,7 @@ public final class FaultsTest {
         fault(1, "|hello");
         fault(1, "|Court slips 0");
         fault(1, "court slips 0|.");
-        fault(1, "court| ".trim());
+        fault(1, "court|");
         fault(1, "court |word");
         fault(1, "court slips |x");
         fault(1, "court slips|");
@@ -82,7 +84,7 @@ public final class FaultsTest {
         }
         fault(1, WORDS + ";king k|");
         fault(1, WORDS + ";king k a,|");
-        fault(1, WORDS + ";king k a|,,".replace("|,,", ",|,"));
+        fault(1, WORDS + ";king k a,|,");
         fault(1, WORDS + ";king k a |1");
         fault(1, WORDS + ";queen k a |b");
         fault(1, WORDS + ";chance k a|");
@@ -188,6 +190,10 @@ public final class FaultsTest {
         int nodesNow = 0;
         int[] met = new int[7];
         for (int i = 0; i < SPOILED && due.wrong() < 20; i++) {
+            if (i % TEXTS_OF_ONE == 0) {
+                x = new KingHears();
+                nodesNow = 0;
+            }
             String court = random.nextInt(3) == 0 ? texts.court(10, 8) : texts.court(5, 4);
             String text = texts.spoiled(court);
             if (text.length() <= 900) {

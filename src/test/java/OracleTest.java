@@ -4,15 +4,17 @@ import java.util.Random;
 
 /** Calls by chance on many courts: each answer, and each trouble behind it, is held against the oracle's. */
 public final class OracleTest {
-    private static final int SMALL_RUNS = 700;
-    private static final int LARGE_RUNS = 60;
-    private static final int CALLS = 420;
+    private static final int SMALL_RUNS = 1500;
+    private static final int LARGE_RUNS = 100;
+    /** An object is used for 512 calls; a new court needs up to 60 of them, twice with trouble(). */
+    private static final int CALLS = 390;
 
     private final Random random;
     private final Texts texts;
     private final StringBuilder told = new StringBuilder();
     private int wrong;
     private long looked;
+    private int made;
 
     private OracleTest(long seed) {
         random = new Random(seed);
@@ -38,8 +40,8 @@ public final class OracleTest {
         Side class1 = new Side(new KingHears());
         Side oracle = new Side(new Oracle());
         Method[] calls = Side.calls();
-        for (int i = 0; i < CALLS && wrong == 0; i++) {
-            if (i == 20 || random.nextInt(150) == 0) {
+        for (int i = 0; made < CALLS && wrong == 0; i++) {
+            if (i == 20 || i > 20 && random.nextInt(150) == 0) {
                 String text = small ? texts.court(6, 5) : texts.court(10, 8);
                 giveCourt(class1, oracle, random.nextInt(10) == 0 ? texts.spoiled(text) : text);
             }
@@ -89,12 +91,13 @@ public final class OracleTest {
         String want = oracle.answer(call, arguments);
         told.append("  ").append(call.getName()).append(Arrays.toString(arguments)).append(" = ").append(got).append('\n');
         looked++;
-        Method trouble = method("trouble");
-        String gotTrouble = class1.answer(trouble);
-        String wantTrouble = oracle.answer(trouble);
-        if (!got.equals(want) || !gotTrouble.equals(wantTrouble)) {
+        made++;
+        if (!got.equals(want)) {
             wrong++;
-            System.out.println(told + "due is " + want + " (trouble " + wantTrouble + ", not " + gotTrouble + ")");
+            System.out.println(told + "due is " + want);
+        }
+        if (random.nextInt(3) == 0 && !call.getName().equals("trouble") && wrong == 0) {
+            compare(class1, oracle, method("trouble"));
         }
     }
 
