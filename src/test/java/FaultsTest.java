@@ -180,6 +180,8 @@ public final class FaultsTest {
         fine("  court  slips  100 ;  word a worth 99  ", 1);
         fine("court slips007;word abcdefgh worth09", 1);
         fine("court slips0;word worth worth1;word slips worth2;king k worth,slips", 3);
+        fine("court slips 0;word a worth 1;word aa worth 2;word ab worth 3;word ba worth 4;word aaaaaaaa worth 5;"
+            + "word aaaaaaab worth 6;word baaaaaaa worth 7;word abaaaaaa worth 8;word z worth 9;word zzzzzzzz worth 10", 10);
         fine(WORDS + ";chance k a 9, b 1, c 5, d 2;throne a;said 0;unsure a 0;word z worth 7", 7);
     }
 

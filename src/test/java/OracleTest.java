@@ -15,6 +15,7 @@ public final class OracleTest {
     private int wrong;
     private long looked;
     private int made;
+    private int nodes;
 
     private OracleTest(long seed) {
         random = new Random(seed);
@@ -37,6 +38,7 @@ public final class OracleTest {
     }
 
     private void run(boolean small) {
+        nodes = small ? 12 : 19;
         Side class1 = new Side(new KingHears());
         Side oracle = new Side(new Oracle());
         Method[] calls = Side.calls();
@@ -120,15 +122,16 @@ public final class OracleTest {
         return switch (call) {
             case "feed" -> random.nextInt();
             case "court" -> random.nextInt(60) - 2;
-            case "part", "front" -> i == 0 ? random.nextInt(12) : random.nextInt(5);
-            case "node" -> i == 0 ? random.nextInt(12) : random.nextInt(6);
-            case "say" -> i == 0 ? random.nextInt(12) : random.nextInt(102) - 1;
+            case "part", "front" -> i == 0 ? random.nextInt(nodes) : random.nextInt(5);
+            case "node" -> i == 0 ? random.nextInt(nodes) : random.nextInt(6);
+            case "say" -> i == 0 ? random.nextInt(nodes) : random.nextInt(102) - 1;
             case "hearsIn", "handed" -> random.nextInt(101);
             case "asks", "askBreaths", "odds", "proof", "disproof" -> random.nextInt(102);
             case "drawn", "drawnLeast" -> i == 0 ? random.nextInt(65540) : random.nextInt(20);
             case "night", "speaks", "rests", "rest", "size" -> random.nextInt(11);
             case "lineAt", "fitAt", "back", "led" -> random.nextInt(5);
-            default -> random.nextInt(12);
+            case "heardAt", "cutAt" -> random.nextInt(random.nextInt(4) == 0 ? 200 : 12);
+            default -> random.nextInt(nodes);
         };
     }
 }

@@ -731,6 +731,7 @@ public final class PromisesTest {
     private void acts() {
         p50Say();
         p51Front();
+        p51LastNode();
         p52Undo();
         p53And54Images();
     }
@@ -767,6 +768,23 @@ public final class PromisesTest {
         due.refused(x, "front(0, 0)", x.front(0, 0), -1, 1);
         due.refused(x, "front(9, 1)", x.front(9, 1), -1, 1);
         due.refused(none, "no COURT: front(0, 0)", none.front(0, 0), -1, 1);
+    }
+
+    /** The last NODE there is room for. */
+    private void p51LastNode() {
+        KingHears x = Due.of("court slips 0;word a worth 1;word b worth 2;word c worth 3;word d worth 4;word e worth 5;"
+            + "word f worth 6;word g worth 7;word h worth 8;word i worth 9;word j worth 10;king ka a;king kb a;king kc a;"
+            + "king kd a;king ke a;king kf a;king kg a;queen kh a, b, c, d");
+        due.same("node(17, 1)", x.node(17, 1), 4);
+        due.same("node(0, 4)", x.node(0, 4), 255 << 10);
+        due.same("front(17, 3)", x.front(17, 3), 3);
+        due.same("part(17, 3) then", x.part(17, 3), 2);
+        due.same("undo()", x.undo(), true);
+        due.same("part(17, 3) as told", x.part(17, 3), 3);
+        due.refused(x, "node(18, 0)", x.node(18, 0), -1, 1);
+        due.same("first(17)", x.first(17), 0);
+        due.same("orderLeast(17)", x.orderLeast(17), 4);
+        due.same("drawn(7, 60)", x.drawn(7, 60), 4);
     }
 
     private void p52Undo() {

@@ -16,8 +16,8 @@ final class Texts {
         List<String> lines = new ArrayList<>();
         List<String> names = new ArrayList<>();
         List<String> words = new ArrayList<>();
-        int wordsLeft = 1 + random.nextInt(mostWords);
-        int rulersLeft = random.nextInt(mostRulers + 1);
+        int wordsLeft = random.nextInt(3) == 0 ? mostWords : 1 + random.nextInt(mostWords);
+        int rulersLeft = random.nextInt(3) == 0 ? mostRulers : random.nextInt(mostRulers + 1);
         int chancesLeft = 2;
         lines.add("court slips " + random.nextInt(101));
         while (wordsLeft + rulersLeft > 0) {
