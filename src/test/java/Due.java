@@ -1,3 +1,5 @@
+import java.util.NoSuchElementException;
+
 /** Counts answers that are not the ones due, and hands texts to a KingHears. */
 final class Due {
     private int wrong;
@@ -71,5 +73,15 @@ final class Due {
             throw new IllegalStateException("fault " + x.fault() + " at " + x.where() + " of " + text);
         }
         return x;
+    }
+
+    /** Whether led(i) throws what the document says; any other exception goes on to the caller. */
+    static boolean ledThrows(KingHears x, int i) {
+        try {
+            x.led(i);
+            return false;
+        } catch (NoSuchElementException e) {
+            return true;
+        }
     }
 }

@@ -7,7 +7,8 @@ public final class FaultsTest {
     /** An object is used for 512 calls: so many texts of 900 bytes, 45 feeds and four calls each, are fewer. */
     private static final int TEXTS_OF_ONE = 10;
 
-    private final Due due = new Due();
+    private final TextDue texts = new TextDue();
+    private final Due due = texts.due;
 
     public static void main(String[] args) {
         FaultsTest test = new FaultsTest();
@@ -23,26 +24,12 @@ public final class FaultsTest {
         test.due.end("FaultsTest");
     }
 
-    /** The place is marked in the text by a bar, which is taken out. */
     private void fault(int number, String marked) {
-        int place = marked.indexOf('|');
-        String text = marked.replace("|", "");
-        KingHears x = new KingHears();
-        due.same("court of " + text, Due.court(x, text), -1);
-        due.same("trouble() of " + text, x.trouble(), 4);
-        due.same("fault() of " + text, x.fault(), number);
-        due.same("where() of " + text, x.where(), place);
-        OracleText read = new OracleText(text);
-        due.same("the oracle's fault of " + text, read.fault(), number);
-        due.same("the oracle's place of " + text, read.place(), place);
+        texts.fault(number, marked);
     }
 
     private void fine(String text, int nodes) {
-        KingHears x = new KingHears();
-        due.same("court of " + text, Due.court(x, text), nodes);
-        due.same("trouble() of " + text, x.trouble(), 0);
-        due.same("fault() of " + text, x.fault(), 0);
-        due.same("where() of " + text, x.where(), -1);
+        texts.fine(text, nodes);
     }
 
     private void forms() {
@@ -187,7 +174,7 @@ public final class FaultsTest {
 
     private void spoiled() {
         Random random = new Random(42);
-        Texts texts = new Texts(random);
+        Texts byChance = new Texts(random);
         KingHears x = new KingHears();
         int nodesNow = 0;
         int[] met = new int[7];
@@ -196,8 +183,8 @@ public final class FaultsTest {
                 x = new KingHears();
                 nodesNow = 0;
             }
-            String court = random.nextInt(3) == 0 ? texts.court(10, 8) : texts.court(5, 4);
-            String text = texts.spoiled(court);
+            String court = random.nextInt(3) == 0 ? byChance.court(10, 8) : byChance.court(5, 4);
+            String text = byChance.spoiled(court);
             if (text.length() <= 900) {
                 OracleText read = new OracleText(text);
                 nodesNow = read.fault() == 0 ? read.kinds.size() : nodesNow;

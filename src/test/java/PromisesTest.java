@@ -1,19 +1,9 @@
-import java.util.NoSuchElementException;
-
 /** Each promise by its number: ordinary inputs, edges, wrong inputs, with answers worked out by hand. */
 public final class PromisesTest {
-    /** ay 0, bee 1, see 2, dee 3, eff 4, left 5, mid 6, odd 7, top 8. */
-    private static final String TOP = "court slips 50;word ay worth 30;word bee worth 70;word see worth 50;"
-        + "word dee worth 20;word eff worth 90;queen left ay, bee;queen mid see, dee;chance odd eff 1, ay 2;"
-        + "king top left, mid, odd;unsure dee 60;unsure ay 80;said 50";
-    /** a 0, b 1, c 2, d 3, far 4, l 5, r 6, top 7; HEARING hears a, b, c and cuts d. */
-    private static final String CUT = "court slips 10;word a worth 5;word b worth 9;word c worth 3;word d worth 8;"
-        + "word far worth 40;queen l a, b;queen r c, d;king top l, r";
-    private static final String ONE = "court slips 0;word x worth 7";
-    /** Every counsel has the four NODES told last: 349 ways down. */
-    private static final String WIDE = "court slips 0;word a worth 10;word b worth 20;word c worth 30;word d worth 40;"
-        + "king e a, b, c, d;king f b, c, d, e;king g c, d, e, f;king h d, e, f, g;king i e, f, g, h;"
-        + "king j f, g, h, i;king k g, h, i, j;king l h, i, j, k";
+    private static final String TOP = Courts.TOP;
+    private static final String CUT = Courts.CUT;
+    private static final String ONE = Courts.ONE;
+    private static final String WIDE = Courts.WIDE;
     private static final int TOP_NODE = 8;
 
     private final Due due = new Due();
@@ -536,18 +526,14 @@ public final class PromisesTest {
         due.same("settles() of 50", not.settles(), 0);
         due.fraction("night of a word", Due.of(ONE).night(0, false), Due.of(ONE).night(0, true), 7, 1);
         due.same("settles() of a word", Due.of(ONE).settles(), 0);
-        due.same("settles() of the longest way", Due.of(chain()).settles(), 8);
+        due.same("settles() of the longest way", Due.of(Courts.CHAIN).settles(), 8);
         leavesAndComesBack();
         due.refused(none, "no COURT: night(0)", none.night(0, false), -1, 1);
         due.refused(none, "no COURT: night(10)", none.night(10, false), -1, 1);
         due.refused(none, "no COURT: settles()", none.settles(), -1, 1);
     }
 
-    private static String chain() {
-        return "court slips 0;word a worth 7;king b a;king c b;king d c;king e d;king f e;king g f;king h g;king i h";
-    }
-
-    /** Nights 50, 70, 50: it is worth 50, but not from night 0 on. */
+    /** Nights 50, 60, 50: it is worth 50, but not from night 0 on. */
     private void leavesAndComesBack() {
         KingHears x = Due.of("court slips 0;word a worth 70;word b worth 30;queen k b;chance top a 1, k 1");
         due.same("night(0)", x.night(0, false), 50);
@@ -864,13 +850,7 @@ public final class PromisesTest {
     }
 
     private void ledThrows(KingHears x, int i) {
-        boolean thrown = false;
-        try {
-            x.led(i);
-        } catch (NoSuchElementException e) {
-            thrown = true;
-        }
-        due.same("whether led(" + i + ") throws", thrown, true);
+        due.same("whether led(" + i + ") throws", Due.ledThrows(x, i), true);
     }
 
     private void p56Size() {
