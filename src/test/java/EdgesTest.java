@@ -25,6 +25,7 @@ public final class EdgesTest {
         test.acts();
         test.images();
         test.whatIsTold();
+        test.ofFull();
         test.due.end("EdgesTest");
     }
 
@@ -44,6 +45,7 @@ public final class EdgesTest {
         feedAndTheTapeThatIsRead();
         courtOfFirstBytes();
         courtForgets();
+        manyCourts();
         faultAndWhere();
     }
 
@@ -148,6 +150,33 @@ public final class EdgesTest {
         is("the larger again", Due.court(x, Courts.CUT), 8);
         is("its throne", x.throne(), 7);
         is("NODES the first is a PART of", x.node(0, 4), 1 << 5);
+    }
+
+    /** What one COURT had room for, each later one has, too; nothing is left in it of those ahead. */
+    private void manyCourts() {
+        KingHears x = new KingHears();
+        String large = "court slips 5;word a worth 99;word b worth 98;chance c a 9, b 9;chance d b 9, c 9;king e c, d, a;"
+            + "queen f e, d;unsure a 5;unsure b 6;said 9";
+        String small = "court slips 0;word a worth 1;king b a;word c worth 5;chance d a 1, c 1;queen e a, c";
+        for (int i = 0; i < 9; i++) {
+            is("a large COURT", Due.court(x, large), 6);
+            due.fraction("its chance of chance", x.worth(3, false), x.worth(3, true), 393, 4);
+            is("its ways", x.node(5, 2), 4);
+            is("a small COURT", Due.court(x, small), 5);
+            due.fraction("its chance", x.worth(3, false), x.worth(3, true), 3, 1);
+            is("steps of a word", x.node(2, 2), 0);
+            is("steps of a counsel", x.node(4, 2), 1);
+            is("PARTS of a word", x.node(2, 1), 0);
+            is("words below a counsel", x.node(4, 3), 5);
+            is("NODES a word is a PART of", x.node(2, 4), 1 << 3 | 1 << 4);
+            is("the THRONE", x.throne(), 4);
+            is("unsure words", x.size(3), 0);
+            is("slips", x.size(0), 0);
+            is("something said", x.size(4), 0);
+            is("a word alone", Due.court(x, Courts.ONE), 1);
+            is("its THRONE", x.throne(), 0);
+            is("its steps", x.node(0, 2), 0);
+        }
     }
 
     /** 4: "of the latest court() not refused by 2"; 5: "if the latest call that may be refused was by 4". */
@@ -289,6 +318,14 @@ public final class EdgesTest {
         is("lineAt(3)", chance.lineAt(3), -1);
         KingHears on = Due.of("court slips 0;word a worth 1;chance o a 1");
         is("line() of a THRONE of chance", on.line(), 1);
+        KingHears acted = Due.of("court slips 0;word a worth 1;word b worth 2;king k a;king l b;king m l;king n k, m");
+        is("line() by b", acted.line(), 4);
+        acted.say(0, 3);
+        is("line() NOW, by a", acted.line(), 3);
+        is("lineAt(2) NOW", acted.lineAt(2), 0);
+        acted.turn(0);
+        is("line() behind turn()", acted.line(), 3);
+        is("lineAt(1) behind it", acted.lineAt(1), 2);
     }
 
     // ---- promises 14 to 21
@@ -361,6 +398,11 @@ public final class EdgesTest {
 
     /** 18, 19: "each time"; "of those CUT at once in their order". */
     private void cutInTheirOrder() {
+        is("cutAt(0), asked for at once", Due.of(Courts.CUT).cutAt(0), 3);
+        is("cuts(), asked for at once", Due.of(Courts.CUT).cuts(), 1);
+        is("heard(), asked for at once", Due.of(Courts.CUT).heard(), 7);
+        is("heardAt(2), asked for at once", Due.of(Courts.CUT).heardAt(2), 2);
+        is("led(0), asked for at once", Due.of(Courts.CUT).led(0), 3);
         KingHears x = Due.of("court slips 0;word a worth 5;word b worth 4;word c worth 6;word d worth 7;queen q b, c, d, a;"
             + "king k a, q;queen r b, d, c;king top k, r, q");
         is("hears(): a b, b, b", x.hears(), 4);
@@ -425,6 +467,10 @@ public final class EdgesTest {
         due.fraction("handed(1, 2): l is 5 by a, b", x.handed(1, 2, false), x.handed(1, 2, true), 5, 1);
         KingHears zero = Due.of("court slips 0;word a worth 0;word b worth 0;chance o a 3, b 5");
         due.fraction("handed of 0", zero.handed(0, 1, false), zero.handed(0, 1, true), 0, 1);
+        KingHears sole = Due.of("court slips 0;word a worth 42;chance o a 1;king k o");
+        due.fraction("handed of a weight alone", sole.handed(0, 99, false), sole.handed(0, 99, true), 42, 1);
+        is("asks(42) of it", sole.asks(42), 1);
+        is("asks(43) of it", sole.asks(43), 0);
         KingHears up = Due.of("court slips 0;word a worth 70;word b worth 20;word c worth 90;word d worth 10;king k a, c;"
             + "king l c, d;queen top k, l, b");
         due.fraction("k's most so far is 70, above the upper bound", up.handed(0, 30, false), up.handed(0, 30, true), 20, 1);
@@ -532,7 +578,25 @@ public final class EdgesTest {
         proofsOfOthers();
     }
 
+    /** "whatever the others are (0 .. 99)": 0 and 99 themselves count. */
+    private void othersAtTheirBounds() {
+        KingHears low = Due.of("court slips 0;word a worth 1;word b worth 5;queen q a, b");
+        is("sure() of 1: b could be 0", low.sure(), 3);
+        is("proof(1): both could be 0", low.proof(1), 3);
+        is("disproof(2): a is enough", low.disproof(2), 1);
+        KingHears high = Due.of("court slips 0;word a worth 98;word b worth 5;king k a, b");
+        is("sure() of 98: b could be 99", high.sure(), 3);
+        is("disproof(99): both could be 99", high.disproof(99), 3);
+        is("proof(98): a is enough", high.proof(98), 1);
+        KingHears half = Due.of("court slips 0;word a worth 49;word b worth 5;chance o a 1, b 1");
+        is("proof(24): a alone, 49 by 2, is more", half.proof(24), 1);
+        is("proof(25)", half.proof(25), 3);
+        is("disproof(74): b alone makes at most 104 by 2", half.disproof(74), 2);
+        is("disproof(75): a alone makes at most 148 by 2", half.disproof(75), 1);
+    }
+
     private void proofsOfOthers() {
+        othersAtTheirBounds();
         KingHears word = Due.of("court slips 0;word z worth 5;word a worth 40");
         is("proof(40) of a word", word.proof(40), 2);
         is("proof(41) of a word", word.proof(41), -2);
@@ -585,8 +649,30 @@ public final class EdgesTest {
         orderMeans();
     }
 
+    /** q r t and q t r need 5, r q t, r t q and t q r 7, t r q 9: from whichever order, all six are tried. */
+    private void leastOfAllOrders() {
+        String text = "court slips 0;word a worth 1;word b worth 2;word c worth 3;word d worth 4;word e worth 5;"
+            + "queen q c, d, e;queen r b, d, e;queen t a, c, d;king top q, r, t";
+        int[][] fronts = {{}, {1}, {2}, {1, 2}, {2, 2}, {2, 1}};
+        int[] hears = {5, 7, 7, 9, 7, 5};
+        for (int i = 0; i < 6; i++) {
+            KingHears x = Due.of(text);
+            for (int place : fronts[i]) {
+                x.front(8, place);
+            }
+            is("hears() in the order " + i, x.hears(), hears[i]);
+            is("orderLeast(8) from the order " + i, x.orderLeast(8), 5);
+            due.fraction("orderMean(8) from the order " + i, x.orderMean(8, false), x.orderMean(8, true), 20, 3);
+        }
+        KingHears two = Due.of(Courts.TOP);
+        is("orderLeast(6): the other order is better", two.orderLeast(6), 5);
+        two.front(6, 1);
+        is("orderLeast(6): the order NOW is better", two.orderLeast(6), 5);
+    }
+
     /** "(of a word: as it is)"; one PART has one order, four have 24. */
     private void orderMeans() {
+        leastOfAllOrders();
         KingHears x = Due.of("court slips 0;word z worth 1;word a worth 1;word b worth 2;word c worth 3;word d worth 4;"
             + "queen q a, b, c, d;king top z, q");
         due.fraction("orderMean(0) of a word", x.orderMean(0, false), x.orderMean(0, true), 2, 1);
@@ -639,6 +725,11 @@ public final class EdgesTest {
         is("settles(): 50, 60, 50", comes.settles(), 2);
         KingHears low = Due.of("court slips 0;word a worth 10;king k a;throne a");
         is("night(0) of a word below a counsel", low.night(0, false), 10);
+        low.say(0, 11);
+        is("night(0) NOW", low.night(0, false), 11);
+        zero.say(0, 9);
+        is("night(1) NOW", zero.night(1, false), 9);
+        is("night(2) NOW", zero.night(2, false), 9);
     }
 
     // ---- promises 35 and 36
@@ -674,9 +765,45 @@ public final class EdgesTest {
         is("trouble() of -2", none.trouble(), 0);
         none.say(1, 98);
         is("pivot() where one does", none.pivot(), 0);
+        everyTurn();
         KingHears last = Due.of(Courts.TEN_WORDS + ";king k j, a");
         is("pivot() that is the tenth word", last.pivot(), 9);
         is("turn(9)", last.turn(9), 1);
+    }
+
+    /** Upwards and downwards by all that it can be; of two ways the lesser. */
+    private void everyTurn() {
+        KingHears up = Due.of("court slips 0;word a worth 0;word b worth 50;king k a, b");
+        KingHears down = Due.of("court slips 0;word a worth 99;word b worth 50;queen k a, b");
+        for (int worth = 0; worth < 99; worth++) {
+            up.say(1, worth);
+            is("turn(0) up to " + (worth + 1), up.turn(0), worth + 1);
+            down.say(1, 99 - worth);
+            is("turn(0) down to " + (98 - worth), down.turn(0), worth + 1);
+        }
+        KingHears both = Due.of("court slips 0;word a worth 50;word b worth 60;word c worth 48;king k a, b;queen q a, c;"
+            + "chance o k 1, q 1");
+        is("turn(0): 61 or 47", both.turn(0), 3);
+        both.say(1, 51);
+        is("turn(0): 52 or 47", both.turn(0), 2);
+        both.say(0, 51);
+        is("turn(0) NOW: 52 alone is near", both.turn(0), 1);
+        KingHears acted = Due.of("court slips 0;word a worth 90;word b worth 95;king k a, b");
+        acted.say(0, 2);
+        is("turn(0) NOW: 96", acted.turn(0), 94);
+        acted.say(0, 94);
+        is("turn(0) NOW: 96", acted.turn(0), 2);
+        acted.say(1, 90);
+        acted.say(0, 99);
+        is("turn(0) NOW: down to 98", acted.turn(0), 1);
+        is("turn(1) NOW: never", acted.turn(1), -2);
+        KingHears first = Due.of("court slips 0;word a worth 20;word b worth 10;word c worth 20;chance o a 1;king k b, c;"
+            + "king l o, k");
+        is("turn(0): 21", first.turn(0), 1);
+        is("turn(1): 21", first.turn(1), 11);
+        is("pivot(): the first word, later ones being more or like", first.pivot(), 0);
+        first.say(0, 9);
+        is("pivot() NOW", first.pivot(), 2);
     }
 
     // ---- promises 37 to 42
@@ -760,10 +887,12 @@ public final class EdgesTest {
     /** "all else as told at first": SAY and FRONT change no FITS. */
     private void asToldAtFirst() {
         KingHears x = Due.of(Courts.TOP);
-        x.say(0, 0);
+        x.say(2, 0);
         x.say(3, 99);
         x.say(4, 0);
+        x.front(8, 2);
         is("fits()", x.fits(), 2);
+        is("fitAt(0)", x.fitAt(0), 0);
         is("fitAt(1)", x.fitAt(1), 1);
         is("could()", x.could(), 1);
         is("ask()", x.ask(), 3);
@@ -808,6 +937,7 @@ public final class EdgesTest {
         once.say(1, 0);
         due.fraction("odds(20) NOW", once.odds(20, false), once.odds(20, true), 1, 1);
         due.fraction("odds(21) NOW", once.odds(21, false), once.odds(21, true), 1, 100);
+        due.fraction("mean() NOW: 0.99 times 20, 0.01 times 99", once.mean(false), once.mean(true), 2079, 100);
         once.say(0, 99);
         due.fraction("odds(99) NOW: said is what it is worth if it doesn't slip", once.odds(99, false),
             once.odds(99, true), 1, 1);
@@ -867,6 +997,16 @@ public final class EdgesTest {
         is("drawnLeast(0, 2)", cut.drawnLeast(0, 2), 3);
         is("drawn(1, 1): 149, 11249, 57305, all turn round", cut.drawn(1, 1), 4);
         is("drawnLeast(1, 1)", cut.drawnLeast(1, 1), 4);
+        is("drawnLeast(5, 1): 449, 33749, 40843, all turn round", cut.drawnLeast(5, 1), 4);
+        is("drawnLeast(5, 2): 48597, 40314, 8922, only l turns round", cut.drawnLeast(5, 2), 3);
+        is("drawnLeast(0, 1), asked for at once", Due.of(Courts.CUT).drawnLeast(0, 1), 3);
+        is("drawn(0, 1), asked for at once", Due.of(Courts.CUT).drawn(0, 1), 3);
+        is("drawnLeast(1, 3): 4, 4, 4", cut.drawnLeast(1, 3), 4);
+        cut.say(2, 6);
+        is("drawnLeast(0, 1) NOW: c is 6", cut.drawnLeast(0, 1), 4);
+        KingHears single = Due.of(Courts.CUT.replace("queen l", "king s far;queen l"));
+        is("drawn(3, 1): 299 of a single PART, 22499, 49074, 10552", single.drawn(3, 1), 3);
+        is("drawn(3, 1) without it: 299, 22499, 49074", Due.of(Courts.CUT).drawn(3, 1), 4);
         KingHears word = Due.of(Courts.ONE);
         is("drawn(0, 1) of a word", word.drawn(0, 1), 1);
         is("drawnLeast(65536, 60) of a word", word.drawnLeast(65536, 60), 1);
@@ -961,8 +1101,34 @@ public final class EdgesTest {
         }
     }
 
+    /** 21 acts of both sorts, of several NODES, of which the oldest ones are forgotten. */
+    private void manyMixedActs() {
+        KingHears x = Due.of(Courts.TOP);
+        for (int i = 0; i < 10; i++) {
+            x.say(i % 5, i + 1);
+            x.front(5 + i % 4, 1);
+        }
+        x.say(4, 99);
+        is("ACTS", x.size(5), 16);
+        for (int i = 0; i < 16; i++) {
+            is("undo()", x.undo(), true);
+        }
+        is("undo() beyond 16", x.undo(), false);
+        int[] worths = {1, 2, 3, 20, 90};
+        for (int k = 0; k < 5; k++) {
+            is("worth(" + k + ") behind the first five acts", x.worth(k, false), worths[k]);
+        }
+        int[][] parts = {{1, 0}, {3, 2}, {4, 0}, {5, 6, 7}};
+        for (int k = 5; k < 9; k++) {
+            for (int i = 0; i < parts[k - 5].length; i++) {
+                is("part(" + k + ", " + i + ") behind them", x.part(k, i), parts[k - 5][i]);
+            }
+        }
+    }
+
     /** Acts of both sorts, of several NODES, taken back one by one. */
     private void undoOfAll() {
+        manyMixedActs();
         KingHears x = Due.of(Courts.TOP);
         x.say(0, 0);
         x.front(8, 2);
@@ -1062,6 +1228,7 @@ public final class EdgesTest {
         is("led(0): the first word is heard", ten.led(0), 1);
         is("led(8)", ten.led(8), 9);
         is("whether led(9) throws", Due.ledThrows(ten, 9), true);
+        is("led(0) that is the first word", Due.of(Courts.TEN_WORDS).led(0), 0);
         KingHears far = Due.of("court slips 0;word a worth 1;king k a;word b worth 1;throne k");
         is("led(0): by numbers, words alone", far.led(0), 2);
     }
@@ -1123,5 +1290,36 @@ public final class EdgesTest {
         x.image();
         Due.court(x, Courts.ONE);
         is("0 behind court()", x.trouble(), 0);
+    }
+
+    // ---- all that there is room for
+
+    /** FULL: every worth is 99; unsure ones are 0 with slips always, but for j. */
+    private void ofFull() {
+        KingHears x = Due.of(Courts.FULL);
+        is("whole(): ka 4, kb 4, kc 10, qa 19, qb 37, qc 64, ca 130, cb 250", x.whole(), 250);
+        is("pivot(): a is a PART of qa", x.pivot(), 0);
+        is("turn(1): ka has like ones", x.turn(1), -2);
+        is("proof(99)", x.proof(99), 1 | 1 << 4);
+        is("disproof(100)", x.disproof(100), 0);
+        is("settles(): kc, five steps down at most, has words of its own", x.settles(), 6);
+        is("night(9)", x.night(9, false), 99);
+        is("fits(): all without a", x.fits(), 8);
+        is("could()", x.could(), 14);
+        is("surely()", x.surely(), 0);
+        is("ask(): a would leave 8", x.ask(), 1);
+        is("askLeaves()", x.askLeaves(), 4);
+        due.fraction("mean(): qa, qb, qc are 0, ca is 99 by 4", x.mean(false), x.mean(true), 99, 16);
+        due.fraction("odds(99): a is 0, and so is qa", x.odds(99, false), x.odds(99, true), 0, 1);
+        is("line()", x.line(), 1);
+        is("drawn(65536, 60)", x.drawn(65536, 60), x.hears());
+        is("best(15)", x.best(15), 14);
+        is("orderMean(17): chance hears all", x.orderMean(17, false), x.hears());
+        for (int k = 0; k < 10; k++) {
+            is("say(" + k + ", 50)", x.say(k, 50), true);
+        }
+        due.fraction("worth(17) of nothing but 50", x.worth(17, false), x.worth(17, true), 50, 1);
+        is("settles() of 50", x.settles(), 0);
+        is("sure(): all ten, for any could make its king 99", x.sure(), 1023);
     }
 }

@@ -22,6 +22,7 @@ public final class TextEdgesTest {
         test.unsureOnes();
         test.said();
         test.names();
+        test.namesNearlyAlike();
         test.numbering();
         test.theEnd();
         test.leastNumberOfOnePlace();
@@ -362,6 +363,22 @@ public final class TextEdgesTest {
         fine("court slips 0;word a worth 1;word aa worth 2;word aaaaaaa worth 3;word aaaaaaaa worth 4", 4);
         fault(3, "court slips 0;word aaaaaaaa worth 3;word |aaaaaaaa worth 4");
         fault(2, "court slips 0;word aaaaaaaa worth 3;throne |aaaaaaa");
+    }
+
+    /** "each told once": NAMES that are nearly alike are several NAMES. */
+    private void namesNearlyAlike() {
+        String[] names = {"a", "aa", "b", "bb", "ab", "ba", "z", "zz", "az", "za", "aab", "aba", "baa", "abc", "acb", "bac",
+            "bca", "cab", "cba", "c", "d", "ac", "bd", "aaaaaaaa", "aaaaaaab", "baaaaaaa", "abaaaaaa", "zzzzzzzz"};
+        for (String name : names) {
+            for (String other : names) {
+                String text = "court slips 0;word " + name + " worth 1;word |" + other + " worth 2";
+                if (name.equals(other)) {
+                    fault(3, text);
+                } else {
+                    fine(text.replace("|", ""), 2);
+                }
+            }
+        }
     }
 
     /** "NODES are numbered as told, all of them". */
